@@ -11,6 +11,7 @@ public final class CodeTest {
         reading();
         protectedBytes();
         endsTooEarly();
+        wrongAtTheEnd();
         wrongHead();
         wrongBlocks();
         wrongBytes();
@@ -207,6 +208,22 @@ public final class CodeTest {
             run.due(whole ? 1280 : -100 - wrong, "read");
             run.due(whole ? 0 : 1, "same");
             run.due(n, "told", 6);
+        }
+    }
+
+    /** A number that is whole and wrong is wrong itself; one that is not whole ends too early. */
+    private static void wrongAtTheEnd() {
+        for (int at = 0; at <= 12; at += 2) {
+            for (int length = at + 1; length <= at + 2; length++) {
+                Run run = coded("22 read, wrong at " + at + ", cut to " + length);
+                // 255 * 256 is no START; 0 is no SIZE, no heap has 0 blocks, none lies at 0 or has 0 bytes.
+                int high = at == 2 ? 255 : 0;
+                run.due(new int[] {5, 4, 0, 4, 0, 4, 0}[at / 2], "poke", at, high);
+                run.due(new int[] {0, 0, 2, 0, 100, 100, 50}[at / 2], "poke", at + 1, 0);
+                run.due(20 - length, "cut", length);
+                run.due(-100 - (length == at + 2 ? at : length), "read");
+                run.due(1, "same");
+            }
         }
     }
 

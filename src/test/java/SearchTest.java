@@ -53,6 +53,10 @@ public final class SearchTest {
         run.due(3, "linear", 7, 2, 100, 6, 4, 3, INDEX);
         run.due(2, "linear", 0, 2, 100, 6, 4, 3, ZERO + INDEX);
         run.due(1, "linear", 6, 2, 100, 6, 4, 3, ZERO + INDEX);
+        run.due(1, "linear", 109, 2, 100, 6, 4, 3, INDIRECT + ZERO + INDEX);
+        // The byte behind a key of 0s does not belong to it.
+        run.due(0, "linear", 7, 1, 102, 19, 2, 1, ZERO);
+        run.due(121, "linear", 7, 1, 102, 19, 2, 1, 0);
         run.due(Run.OUTSIDE, "linear", 9, 2, 100, 6, -1, 3, 0);
         run.due(-1, "linear", 9, 2, 1015, 3, 3, 0, INDEX);
         run.due(-1, "linear", 9, 2, 1016, 3, 3, 0, INDEX);
