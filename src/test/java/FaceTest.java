@@ -10,7 +10,7 @@ import java.util.TreeSet;
 import java.util.regex.Matcher;
 import java.util.regex.Pattern;
 
-/** The class's face, and those rules of LANGUAGE.md that a program can look after. */
+@Case("the public face, and those rules of LANGUAGE.md that a program can look after")
 public final class FaceTest {
     private static final Set<String> METHODS = Set.of(
         "long get 2", "int set 3", "int zero 2", "int copy 3", "int resize 1", "int make 1", "int free 1",
@@ -22,15 +22,22 @@ public final class FaceTest {
     private static final Pattern FORBIDDEN = Pattern.compile(
         "\\b(throw|throws|try|catch|finally|synchronized|assert|protected|package|volatile|native)\\b|->|::|Exact\\b");
 
-    public static void main(String[] arguments) throws IOException, IllegalAccessException {
-        methods();
-        constants();
-        nestedClasses();
-        source(Files.readString(Path.of(System.getProperty("source"))));
-        Run.end();
+    private static final Set<String> IMPORTS = Set.of(
+        "java.util.Arrays", "java.util.ArrayList", "java.util.List", "java.util.Iterator");
+
+    public static void main(String[] arguments) {
+        Cases.run(FaceTest.class);
     }
 
-    private static void methods() {
+    @Case("the class is public and final, with one constructor, that is public")
+    static void type() {
+        expect("modifiers", Modifier.PUBLIC | Modifier.FINAL, GlulxHeap.class.getModifiers());
+        expect("constructors", 1, GlulxHeap.class.getDeclaredConstructors().length);
+        expect("public constructors", 1, GlulxHeap.class.getConstructors().length);
+    }
+
+    @Case("the methods of the document and no other that can be seen; no private one bears the name of a public one")
+    static void methods() {
         Set<String> seen = new TreeSet<>();
         Set<String> hidden = new TreeSet<>();
         for (Method method : GlulxHeap.class.getDeclaredMethods()) {
@@ -46,20 +53,18 @@ public final class FaceTest {
         expect("methods", new TreeSet<>(METHODS), seen);
         for (String method : METHODS) {
             if (hidden.contains(method.split(" ")[1])) {
-                Run.fault("a private method bears the name of a public one: " + method);
+                Cases.fault("a private method bears the name of a public one: " + method);
             }
         }
-        expect("modifiers", Modifier.PUBLIC | Modifier.FINAL, GlulxHeap.class.getModifiers());
-        expect("constructors", 1, GlulxHeap.class.getDeclaredConstructors().length);
-        expect("public constructors", 1, GlulxHeap.class.getConstructors().length);
     }
 
-    private static void constants() throws IllegalAccessException {
+    @Case("the constants of the document and no other field that can be seen; static fields are final")
+    static void constants() throws IllegalAccessException {
         Set<String> seen = new TreeSet<>();
         for (Field field : GlulxHeap.class.getDeclaredFields()) {
             int modifiers = field.getModifiers();
             if (Modifier.isStatic(modifiers) && !Modifier.isFinal(modifiers)) {
-                Run.fault("a static field that is not final: " + field);
+                Cases.fault("a static field that is not final: " + field);
             }
             if (!Modifier.isPrivate(modifiers)) {
                 seen.add(field.getName() + " " + field.get(null));
@@ -68,30 +73,34 @@ public final class FaceTest {
         expect("constants", new TreeSet<>(CONSTANTS), seen);
     }
 
-    private static void nestedClasses() {
+    @Case("classes inside are static, and not public")
+    static void nestedClasses() {
         for (Class<?> nested : GlulxHeap.class.getDeclaredClasses()) {
             int modifiers = nested.getModifiers();
             if (!Modifier.isStatic(modifiers) || Modifier.isPublic(modifiers)) {
-                Run.fault("a class inside is not static, or is public: " + nested);
+                Cases.fault("a class inside is not static, or is public: " + nested);
             }
         }
     }
 
-    private static void source(String text) {
+    @Case("no word that LANGUAGE.md leaves out, and no import but what it lists")
+    static void source() throws IOException {
+        String text = Files.readString(Path.of(System.getProperty("source")));
         String bare = text.replaceAll("(?s)/\\*.*?\\*/", "").replaceAll("//[^\n]*", "");
+        bare = bare.replaceAll("\\b(case\\b[^;{}]*?|default\\s*)->", "");
         Matcher matcher = FORBIDDEN.matcher(bare);
         while (matcher.find()) {
-            Run.fault("LANGUAGE.md leaves out: " + matcher.group());
+            Cases.fault("LANGUAGE.md leaves out: " + matcher.group());
         }
         Matcher imports = Pattern.compile("import ([^;]*);").matcher(bare);
         while (imports.find()) {
-            expect("import", "java.util.Arrays", imports.group(1));
+            expect("import " + imports.group(1), true, IMPORTS.contains(imports.group(1)));
         }
     }
 
     private static void expect(String what, Object due, Object got) {
         if (!due.equals(got)) {
-            Run.fault(what + ": due is " + due + ", there is " + got);
+            Cases.fault(what + ": due is " + due + ", there is " + got);
         }
     }
 }

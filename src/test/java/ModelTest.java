@@ -1,7 +1,7 @@
 import java.util.List;
 import java.util.Random;
 
-/** All promises: long runs of calls, the same ones each time, against the document in its plainest form. */
+@Case("all promises, runs of calls against the document in its plainest form")
 public final class ModelTest {
     private static final String[] NAMES = {
         "get", "set", "set", "set", "zero", "copy", "copy", "resize", "make", "make", "make", "make", "free", "free",
@@ -15,69 +15,85 @@ public final class ModelTest {
 
     private final Random random;
     private final Model model = new Model();
-    private final Run run;
+    private final Run run = new Run();
+    private int calls;
 
     private ModelTest(int seed) {
         random = new Random(seed);
-        run = new Run("run " + seed);
     }
 
     public static void main(String[] arguments) {
-        for (int seed = 1; seed <= 600; seed++) {
-            new ModelTest(seed).go(400);
-        }
-        for (int seed = 1001; seed <= 1060; seed++) {
-            new ModelTest(seed).fullHeap();
-        }
-        Run.end();
+        Cases.run(ModelTest.class);
     }
 
-    private void go(int calls) {
-        for (int i = 0; i < calls; i++) {
+    @Case("all calls, in runs of 60 to 460, then all that is there is looked at")
+    static void allCalls() {
+        for (int seed = 1; seed <= 3000; seed++) {
+            new ModelTest(seed).go(60 + seed % 5 * 100);
+        }
+    }
+
+    @Case("many small BLOCKS, so that all 64 get USED")
+    static void fullHeap() {
+        for (int seed = 5001; seed <= 5200; seed++) {
+            new ModelTest(seed).fillHeap(300);
+        }
+    }
+
+    private void go(int count) {
+        while (calls < count) {
             String name = NAMES[random.nextInt(NAMES.length)];
             // Rare, or memory would be empty in most of a run.
             if (name.equals("restart") && random.nextInt(4) > 0) {
                 name = "read";
             }
-            if (!compare(name, arguments(name)) || i % 20 == 19 && !compareAll()) {
+            if (!compare(name, arguments(name))) {
                 return;
             }
         }
+        compareAll();
     }
 
-    /** Many small blocks, so that all 64 get used. */
-    private void fullHeap() {
-        for (int i = 0; i < 400; i++) {
+    private void fillHeap(int count) {
+        while (calls < count) {
             boolean makes = random.nextInt(3) > 0;
             int n = 1 + random.nextInt(random.nextInt(10) == 0 ? 900 : 60);
-            if (!compare(makes ? "make" : "free", makes ? n : blockPlace()) || i % 20 == 19 && !compareAll()) {
+            if (!compare(makes ? "make" : "free", makes ? n : blockPlace())) {
                 return;
             }
             if (random.nextInt(30) == 0 && !(compare("write") && compare("read"))) {
                 return;
             }
         }
+        compareAll();
     }
 
     private boolean compare(String name, int... arguments) {
+        calls++;
         return run.due(model.call(name, arguments), name, arguments);
     }
 
-    private boolean compareAll() {
+    /** As much as the calls that are left can ask: in some runs of the code that is there, else of one of all memory. */
+    private void compareAll() {
         boolean alike = true;
         for (int what = 0; what <= 8 && alike; what++) {
             alike = compare("told", what);
         }
-        for (int i = 0; i < model.blockPlaces().size() * 3 && alike; i++) {
-            alike = compare("block", i / 3, i % 3);
+        if (alike && random.nextInt(3) > 0) {
+            alike = compare("write");
         }
-        for (int i = 0; i < model.size() && alike; i += 4) {
-            alike = compare("get", i, 4);
+        int blocks = 3 * model.blockPlaces().size();
+        int bytes = model.codeLength();
+        while (alike && calls < Run.CALLS_MOST) {
+            if (blocks > 0 && random.nextInt(4) == 0) {
+                int i = random.nextInt(blocks);
+                alike = compare("block", i / 3, i % 3);
+            } else if (random.nextInt(3) == 0) {
+                alike = compare("get", random.nextInt(model.size() / 4) * 4, 4);
+            } else {
+                alike = compare("code", random.nextInt(bytes + 1));
+            }
         }
-        for (int i = 0; i <= model.codeLength() && alike; i++) {
-            alike = compare("code", i);
-        }
-        return alike;
     }
 
     private int[] arguments(String name) {
