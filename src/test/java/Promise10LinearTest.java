@@ -93,6 +93,7 @@ public final class Promise10LinearTest {
         run.due(100, "linear", 300, 1, 90, 1, 500, 0, INDIRECT);
         run.due(100, "linear", 300, 3, 90, 1, 500, 0, INDIRECT);
         run.due(300, "linear", 500, 64, 90, 1, 500, 0, INDIRECT);
+        run.due(0, "linear", 0, 64, 0, 1, 1, 0, INDIRECT + INDEX);
         run.due(210, "linear", 500, 64, 90, 1, 500, 0, INDIRECT + INDEX);
         run.due(1, "set", 563, 1, 9);
         run.due(500, "linear", 500, 64, 90, 1, 500, 0, INDIRECT);

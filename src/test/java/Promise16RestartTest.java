@@ -35,6 +35,19 @@ public final class Promise16RestartTest {
         run.due(0, "get", 1200, 4);
     }
 
+    @Case("twice: nothing of THE HEAP or of the bytes that were there comes again")
+    static void twice() {
+        Run run = new Run();
+        run.due(1024, "make", 300);
+        run.due(1024 + 300, "make", 5);
+        run.due(1, "set", 100, 4, -1);
+        run.due(1, "restart");
+        run.idle(1, "restart");
+        run.heapIs(1024, 0);
+        run.due(0, "get", 100, 4);
+        run.due(1024, "resize", 512);
+    }
+
     @Case("of a new object: nothing changes")
     static void ofANewObject() {
         Run run = new Run();

@@ -112,6 +112,35 @@ public final class Promise22ReadTest {
         right(1280, code);
     }
 
+    /** The code has all those bytes at first, and is then cut. */
+    private static void cutIsWrongAtItsEnd(int n, int... code) {
+        Run run = given(code);
+        run.due(code.length - n, "cut", n);
+        run.refused(-100 - n, "read");
+    }
+
+    @Case("wrong where it ends too early: within a number whose second byte, that was cut, would be wrong")
+    static void cutWithinANumber() {
+        cutIsWrongAtItsEnd(1, pairs(1281, 1024, 2, 1024, 100, 1124, 50));
+        cutIsWrongAtItsEnd(3, pairs(1280, 1025, 2, 1024, 100, 1124, 50));
+        cutIsWrongAtItsEnd(5, pairs(1280, 1024, 65, 1024, 100, 1124, 50));
+        cutIsWrongAtItsEnd(9, pairs(1280, 1024, 2, 1024, 0, 1124, 50));
+        cutIsWrongAtItsEnd(11, pairs(1280, 1024, 2, 1024, 100, 1123, 50));
+        cutIsWrongAtItsEnd(13, pairs(1280, 1024, 2, 1024, 100, 1124, 157));
+        cutIsWrongAtItsEnd(7, bytes(pairs(1024, 0, 0), 0, 255, 9));
+    }
+
+    @Case("bytes that were cut are not read, though they were right")
+    static void cutBytes() {
+        Run run = given(bytes(pairs(1024, 0, 0), 0, 63, 5, 6));
+        run.due(1, "cut", 9);
+        run.due(1024, "read");
+        run.bytesAre(64, 5, 0);
+        run.due(3, "cut", 6);
+        run.due(1024, "read");
+        run.bytesAre(64, 0, 0);
+    }
+
     @Case("wrong where it ends too early: behind a 0 that no number follows")
     static void endsBehindZero() {
         wrong(7, bytes(pairs(1024, 0, 0), 0));
