@@ -251,6 +251,17 @@ public final class Promise10LinearTest {
         run.refused(Run.ENDLESS, "linear", 99, 1, 200, 1, -1, 0, ZERO + INDEX);
     }
 
+    @Case("ENDLESS: the 3001st structure would lie behind MEMORY, but the search does not come to it; OUTSIDE: the 3000th")
+    static void endlessAtTheEnd() {
+        Run run = new Run();
+        run.due(1024, "resize", 8192);
+        run.refused(Run.ENDLESS, "linear", 9, 1, 8192 - 3000, 1, -1, 0, 0);
+        run.refused(Run.ENDLESS, "linear", 9, 1, 8192 - 3000, 1, 3001, 0, 0);
+        run.due(0, "linear", 9, 1, 8192 - 3000, 1, 3000, 0, 0);
+        run.refused(Run.OUTSIDE, "linear", 9, 1, 8192 - 2999, 1, -1, 0, 0);
+        run.refused(Run.OUTSIDE, "linear", 9, 1, 8192 - 2999, 1, 3000, 0, 0);
+    }
+
     @Case("BAD comes ahead of OUTSIDE and of ENDLESS, OUTSIDE of the KEY ahead of ENDLESS")
     static void order() {
         Run run = rows(11);

@@ -148,6 +148,13 @@ public final class Promise22ReadTest {
         wrong(11, bytes(pairs(1280, 1024, 1, 1024, 5), 0));
     }
 
+    @Case("a 0 that no number follows, when MEMORY is full already: any row would come to a byte that MEMORY has not")
+    static void zeroBehindFullMemory() {
+        wrong(9, bytes(pairs(256, 0, 0), 0, 254, 9, 0));
+        wrong(8, bytes(pairs(256, 0, 0), 0, 255, 0));
+        wrong(10, bytes(pairs(256, 0, 0), 0, 253, 9, 0));
+    }
+
     @Case("a number that is there and wrong counts ahead of the end behind it")
     static void wrongAheadOfTheEnd() {
         wrong(0, pairs(0));
@@ -329,6 +336,11 @@ public final class Promise22ReadTest {
         run.due(1024, "read");
         run.bytesAre(64, 5, 0, 6, 0);
         run.due(0, "get", 1020, 4);
+    }
+
+    @Case("rows of 0s that could be one row, and rows side by side, are right: nothing says that they can not be")
+    static void shortRows() {
+        right(1024, bytes(pairs(1024, 0, 0), 0, 0, 0, 62, 5, 0, 0, 0, 1, 6)).bytesAre(63, 185, 5, 0, 0, 0, 6, 0);
     }
 
     @Case("PROTECTED bytes that MEMORY has both now and then stay: the first and the last of them, none beside them")
